@@ -160,6 +160,19 @@ public final class FeltTest {
         }
         DUE.is("a long way", x.walk(5, 0), 9);
         DUE.is("a long way's steps", x.walk(5, 1), 4 + 3 + 4 + 2);
+        // each place must be left and reached from each side
+        for (int from = 0; from < 30; from++) {
+            for (int to = 0; to < 30; to++) {
+                if (Math.abs(from / 6 - to / 6) + Math.abs(from % 6 - to % 6) == 1) {
+                    EiderClimate two = new EiderClimate();
+                    tell(two, "t");
+                    two.mend(from, 1, 2);
+                    two.mend(to, 1, 3);
+                    DUE.is("walk " + from + " to " + to, two.walk(100 * from + to, 0), 2);
+                    DUE.is("its step", two.walk(100 * from + to, 1), 1);
+                }
+            }
+        }
     }
 
     private static void patches() {

@@ -55,6 +55,9 @@ public final class LawTest {
         DUE.is("law of 119 bytes", x.law(), 1);
         DUE.is("empty then", x.count(2), 0);
         DUE.is("sum", x.later(0, 0, 0), 60);
+        tell(x, "-" + sum);
+        DUE.is("law of 120 bytes, each of which counts", x.law(), 1);
+        DUE.is("sum less two", x.later(0, 0, 0), 58);
         tell(x, sum.append('+').toString());
         DUE.is("120 bytes end too early", x.law(), -220);
     }
