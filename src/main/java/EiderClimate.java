@@ -55,7 +55,7 @@ public final class EiderClimate {
     }
 
     public int houses(int shelf, int i, int n) {
-        if (!isShelf(shelf) || i < 0 || n < 1 || n > MOST_HOUSES) {
+        if (!isShelf(shelf) || n < 1 || n > MOST_HOUSES) {
             return BAD;
         }
         Shelf from = shelves[shelf];
@@ -409,10 +409,11 @@ public final class EiderClimate {
         return shelf >= 0 && shelf < SHELVES;
     }
 
-    /** Whether the next house of a row of shorts came: the row may end, or tell what is none. */
+    /** Whether the next house of a row of shorts came: the row may lack, end, or tell what is none. */
     private boolean houseCame(Shelf from, int i, int came) {
         int left = from.length - 3 * came - 2;
-        if (i >= left || from.holds != Shelf.SHORTS) {
+        // a place ahead of the row is no bad number: nothing is there, as behind its end
+        if (i < 0 || i >= left || from.holds != Shelf.SHORTS) {
             return false;
         }
         int at = i + 3 * came;

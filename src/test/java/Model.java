@@ -488,7 +488,7 @@ final class Model {
     }
 
     int houses(int shelf, int i, int n) {
-        if (!in(shelf, 0, 5) || !in(n, 1, 8) || i < 0) {
+        if (!in(shelf, 0, 5) || !in(n, 1, 8)) {
             return -1;
         }
         if (shelves[shelf] != null && !(shelves[shelf] instanceof short[])) {

@@ -7,6 +7,7 @@ public final class SquaresTest {
         house();
         housesFromRow();
         housesRefused();
+        housesFromPlacesThatAreNotThere();
         mendAndOf();
         mendRefused();
         DUE.end();
@@ -99,7 +100,6 @@ public final class SquaresTest {
         DUE.is("shelf 6", x.houses(6, 0, 1), -1);
         DUE.is("n 0", x.houses(0, 0, 0), -1);
         DUE.is("n 9", x.houses(0, 0, 9), -1);
-        DUE.is("i below 0", x.houses(0, -1, 1), -1);
         for (int sort = 0; sort <= 4; sort++) {
             x.row(0, sort, 3);
             DUE.is("row of sort " + sort, x.houses(0, 0, 1), sort == 1 ? 1 : -12);
@@ -110,6 +110,28 @@ public final class SquaresTest {
         DUE.is("BAD is named before -12", x.houses(0, 0, 9), -1);
         x.keep(0, -1);
         DUE.is("nothing again", x.houses(0, 0, 1), 0);
+    }
+
+    private static void housesFromPlacesThatAreNotThere() {
+        EiderClimate x = new EiderClimate();
+        int[] places = {-1, -2, -3, -1000, Integer.MIN_VALUE, 60, Integer.MAX_VALUE};
+        for (int i : places) {
+            DUE.is("missing, from " + i, x.houses(0, i, 1), 0);
+            DUE.is("missing, eight from " + i, x.houses(5, i, 8), 0);
+            DUE.is("shelf 6 from " + i, x.houses(6, i, 1), -1);
+            DUE.is("n 0 from " + i, x.houses(0, i, 0), -1);
+            DUE.is("n 9 from " + i, x.houses(0, i, 9), -1);
+        }
+        x.row(1, 1, 60);
+        x.row(2, 1, 0);
+        x.row(3, 0, 60);
+        for (int i : places) {
+            DUE.is("shorts from " + i, x.houses(1, i, 8), 0);
+            DUE.is("no shorts in it, from " + i, x.houses(2, i, 8), 0);
+            DUE.is("bytes from " + i, x.houses(3, i, 8), -12);
+        }
+        DUE.is("none came", x.count(0), 0);
+        DUE.is("from the last three", x.houses(1, 57, 8), 1);
     }
 
     private static void mendAndOf() {
