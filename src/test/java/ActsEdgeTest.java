@@ -221,6 +221,10 @@ public final class ActsEdgeTest {
         BARE.changesNothing("nothing where nothing is", 1, x -> x.keep(0, -1));
         LIVED.changesNothing("the same again", 1, x -> x.keep(3, 4));
         FIFTY_BODIES.answers("the last one", 1, x -> x.keep(5, 49));
+        for (int body = 0; body < 50; body++) {
+            int which = body;
+            FIFTY_BODIES.answers("it is " + body, body % 8, x -> Edge.behind(x.keep(5, which), x.taken(5, 0)));
+        }
         FIFTY_BODIES.changesNothing("behind the last one", Edge.BAD, x -> x.keep(5, 50));
     }
 

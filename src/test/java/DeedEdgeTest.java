@@ -544,6 +544,7 @@ public final class DeedEdgeTest {
             DUE.is("one more", x.count(3), Math.min(40, kept + 1));
             DUE.is("undo it", x.undo(), Math.min(40, kept + 1) - 1);
         }
+        eachOfFortyIsItself();
         Edge forty = new Edge(DUE, x -> {
             for (int i = 0; i < 40; i++) {
                 x.mend(i % 30, i / 30, 1);
@@ -551,6 +552,40 @@ public final class DeedEdgeTest {
         });
         forty.changesNothing("full, a wrong one forgets none", Edge.BAD, x -> x.mend(0, 0, 5));
         forty.changesNothing("full, the same forgets none", 1, x -> x.mend(0, 0, 1));
+    }
+
+    /** Changes of many squares and numbers, of which the first nine are forgotten. */
+    private static void eachOfFortyIsItself() {
+        EiderClimate x = new EiderClimate();
+        int[] was = new int[49];
+        for (int i = 0; i < 49; i++) {
+            was[i] = x.mend(squareOf(i), whatOf(i), numberOf(i));
+        }
+        DUE.is("forty", x.count(3), 40);
+        for (int i = 48; i >= 9; i--) {
+            DUE.is("undo", x.undo(), i - 9);
+            DUE.is("undone " + i, x.of(squareOf(i), whatOf(i)), was[i]);
+        }
+        for (int i = 0; i < 9; i++) {
+            DUE.is("forgotten " + i, x.of(squareOf(i), whatOf(i)), numberOf(i));
+        }
+        for (int i = 9; i < 49; i++) {
+            DUE.is("redo", x.redo(), 48 - i);
+            DUE.is("done again " + i, x.of(squareOf(i), whatOf(i)), numberOf(i));
+        }
+    }
+
+    private static int squareOf(int i) {
+        return i % 7 * 4;
+    }
+
+    private static int whatOf(int i) {
+        return i / 7 % 2 + 1;
+    }
+
+    /** Another one than 14 changes before, when the same number of the same square was told. */
+    private static int numberOf(int i) {
+        return i / 14 + i % 3 * 2 + 1;
     }
 
     /** "deeds are none (SORTS, THICK, WORN, MONTH by them, too)". */

@@ -24,6 +24,10 @@ final class Due {
         }
     }
 
+    int seen() {
+        return seen;
+    }
+
     boolean anyWrong() {
         return wrong > 0;
     }

@@ -116,7 +116,7 @@ final class Edge {
         }
     }
 
-    /** All that can be seen of an object, by some 400 calls, of which the last ones change it. */
+    /** All that can be seen of an object, by some 300 calls and two for each change, the last of which change it. */
     static List<String> whole(EiderClimate x) {
         List<String> seen = new ArrayList<>();
         for (int square = 0; square < 30; square++) {

@@ -393,6 +393,11 @@ public final class FeltEdgeTest {
             DUE.is("the greatest to " + square, x.patches(1), square + 1);
             DUE.is("in one", x.patches(0), 1);
         }
+        for (int square = 0; square < 30; square++) {
+            DUE.is("the greatest from " + square, x.patches(1), 30 - square);
+            x.mend(square, 1, 0);
+        }
+        DUE.is("none again", x.patches(1), 0);
         EiderClimate y = new EiderClimate();
         y.mend(29, 1, 9);
         DUE.is("one at the end", y.patches(0), 1);

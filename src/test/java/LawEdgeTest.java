@@ -378,6 +378,14 @@ public final class LawEdgeTest {
         value("!1", 0);
         value("!9", 0);
         value("!-1", 0);
+        for (String nothing : new String[] {"0|0", "0&0", "0&1", "1&0", "1<1", "2<1", "1=2", "1>1", "1>2", "!1"}) {
+            value("50+(" + nothing + ")", 50);
+            value("(" + nothing + ")=0", 1);
+        }
+        for (String one : new String[] {"0|7", "7|0", "7|7", "7&8", "1<9", "7=7", "9>1", "!0"}) {
+            value("50+(" + one + ")", 51);
+            value("(" + one + ")=1", 1);
+        }
         value("-!0+1", 0);
         value("-!1+1", 1);
     }

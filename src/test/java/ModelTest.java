@@ -3,7 +3,8 @@ import java.util.Random;
 /** Runs of calls by draws, on the class and on the model: each answer must be the same. */
 public final class ModelTest {
     private static final int RUNS = 400;
-    private static final int CALLS = 512;
+    /** An object is for 512 calls; the most that one draw makes is a row of 54 that is felt. */
+    private static final int CALLS = 512 - 64;
     private static final int[] ODD = {-1, -2, Integer.MIN_VALUE, Integer.MAX_VALUE, 30, 8, 49, 61, 100, 4096, 12, 13};
     private static final Due DUE = new Due("ModelTest");
 
@@ -39,10 +40,9 @@ public final class ModelTest {
     private void calls() {
         // some runs begin with a whole cover, some with houses, for else most warmth is 0
         int filled = run % 3 == 0 ? 0 : run % 3 == 1 ? 12 : 30;
-        int used = 0;
+        int before = DUE.seen();
         for (int i = 0; i < filled; i++) {
             int square = draws.nextInt(30);
-            used += 3;
             mend(square, 0, draws.nextInt(5));
             mend(square, 1, draws.nextInt(10));
             mend(square, 2, draws.nextInt(13));
@@ -50,13 +50,12 @@ public final class ModelTest {
         for (int i = 0; i < run % 5; i++) {
             int place = draws.nextInt(30);
             int needs = draws.nextInt(30);
-            used++;
             DUE.is("house", x.house(place, needs), m.house(place, needs));
         }
-        for (int call = used; call < CALLS && !DUE.anyWrong(); call++) {
+        while (DUE.seen() - before < CALLS && !DUE.anyWrong()) {
             one();
             if (DUE.anyWrong()) {
-                System.out.println("run " + run + ", call " + call);
+                System.out.println("run " + run + ", call " + (DUE.seen() - before));
             }
         }
     }

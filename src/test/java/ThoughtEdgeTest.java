@@ -33,6 +33,7 @@ public final class ThoughtEdgeTest {
         shakesWhats();
         shakesAtEachSquare();
         shakesOfLikeOnes();
+        allAreCold();
         stuffsHowManyAndWhats();
         stuffsAtEachSquare();
         stuffsOfLikeOnes();
@@ -516,6 +517,24 @@ public final class ThoughtEdgeTest {
         DUE.is("at 21 too", x.shakes(0), 21);
     }
 
+    /** "HOUSES 0 .. 7": fewest may be all eight of them. */
+    private static void allAreCold() {
+        EiderClimate x = new EiderClimate();
+        for (int house = 0; house < 8; house++) {
+            x.house(house, 99);
+        }
+        DUE.is("which SHAKE", x.shakes(0), 7);
+        DUE.is("how many then", x.shakes(1), 8);
+        int[] which = {-9, 0, 1};
+        for (int k = 0; k <= 2; k++) {
+            DUE.is("how many by " + k, x.stuffs(k, 0), 8);
+            DUE.is("which by " + k, x.stuffs(k, 1), which[k]);
+        }
+        x.mend(0, 4, 98);
+        x.mend(9, 1, 9);
+        DUE.is("SHAKE is at the least still", x.shakes(0), 7);
+    }
+
     /** "k (0 .. 2) SQUARES", "how many are COLD (what 0), which (1). BAD." */
     private static void stuffsHowManyAndWhats() {
         for (int k : Edge.outside(0, 2)) {
@@ -583,6 +602,9 @@ public final class ThoughtEdgeTest {
             DUE.is("by " + law + " none", x.stuffs(0, 0), 1);
             DUE.is("by " + law, x.stuffs(1, 0), 0);
             DUE.is("by " + law + " which", x.stuffs(1, 1), 17);
+            x.house(21, 1);
+            DUE.is("by " + law + " two", x.stuffs(2, 0), 0);
+            DUE.is("by " + law + " which two", x.stuffs(2, 1), 30 * 17 + 21);
         }
     }
 }
