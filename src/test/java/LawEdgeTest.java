@@ -11,6 +11,7 @@ public final class LawEdgeTest {
         feedFull();
         tapeIsEmptyThen();
         faultLeavesTheLaw();
+        nothingIsLeftOfLawsBefore();
         tooEarly();
         lastByteCounts();
         lines();
@@ -98,6 +99,22 @@ public final class LawEdgeTest {
         }
         DUE.is("another law", Edge.tell(x, "5"), 1);
         DUE.is("by the new one", x.later(0, 0, 0), 5);
+    }
+
+    /** "THE TAPE becomes THE LAW": a shorter one has nothing of the longer ones before, faults or not. */
+    private static void nothingIsLeftOfLawsBefore() {
+        for (String before : new String[] {"!1", "-9", "!!9;3", "1+2*3-4", "0?1;0?2;7", "s|t&w=m", "!1+", "-9;"}) {
+            for (String text : new String[] {"5", "0?4;5", "1?5", "2+3"}) {
+                EiderClimate x = new EiderClimate();
+                Edge.tell(x, before);
+                Edge.tell(x, before);
+                Edge.tell(x, before);
+                DUE.is(text + " behind " + before, Edge.tell(x, text), 1);
+                DUE.is(text + " behind " + before + " gives", x.later(0, 0, 0), 5);
+                DUE.is("once more", Edge.tell(x, "0?4"), 1);
+                DUE.is("once more gives", x.later(0, 0, 0), 0);
+            }
+        }
     }
 
     /** "FAULT: .. the length, if it ends too early." */
